@@ -14,6 +14,7 @@ public final class ChangeTest {
         undoing();
         undoingEight();
         undoingLeaves();
+        bringingEventsBack();
         saving();
         restoring();
         Check.end();
@@ -202,6 +203,21 @@ public final class ChangeTest {
         Watch.append(watch, ";");
         Check.same("60: the input stays", watch.runScript(), 1);
         Check.same("60: the saved state stays", watch.restoreState(), 8);
+    }
+
+    private static void bringingEventsBack() {
+        // 20 hunts fill the stored events; after them a dawn, oaths of the other cat and hunts push all of them out.
+        GranaryWatch watch = Watch.of("cat a 2 left;cat b 1 right;sack c 999 40 open;shift a 22;shift b 1;shift a 1;hour 7;");
+        watch.letPass(20);
+        String events = Watch.events(watch);
+        watch.saveState();
+        watch.letPass(40);
+        Check.same("32: others now", Watch.events(watch).equals(events), false);
+        watch.undo();
+        Check.same("60: the events are back", Watch.events(watch), events);
+        watch.letPass(40);
+        watch.restoreState();
+        Check.same("64: the events are back", Watch.events(watch), events);
     }
 
     private static void saving() {

@@ -22,6 +22,7 @@ public final class TimeTest {
         huntingSacks();
         storedEvents();
         milk();
+        fullGranary();
         Check.end();
     }
 
@@ -327,5 +328,36 @@ public final class TimeTest {
         Check.same("36: least", watch.milk(), 0);
         Watch.run(watch, "milk 5;");
         Check.same("36: of a script", watch.milk(), 5);
+    }
+
+    private static void fullGranary() {
+        StringBuilder setup = new StringBuilder("milk 4;");
+        for (char letter = 'a'; letter <= 'h'; letter++) {
+            setup.append("cat ").append(letter).append(letter % 2 == 0 ? " 3 left;" : " 4 right;");
+        }
+        for (char letter = 'a'; letter <= 'f'; letter++) {
+            setup.append("sack ").append(letter).append(" 99 9 open;");
+        }
+        for (char letter = 'a'; letter <= 'l'; letter++) {
+            setup.append("shift ").append((char) ('a' + (letter - 'a') % 8)).append(" 2;");
+        }
+        GranaryWatch watch = Watch.of(setup.toString());
+        watch.letPass(3);
+        Check.same("10: eight cats", watch.catCount(), 8);
+        Check.same("11: six sacks", watch.sackCount(), 6);
+        Check.same("12: twelve shifts", watch.shiftCount(), 12);
+        Check.same("31: the first sack that nobody hunted in", watch.huntingSack(), 3);
+        Check.same("37: the last sack", watch.miceAfter(5, 3), 5);
+        Check.same("41: the last sack, whose mice are caught in time", watch.hoursUntilEmpty(5), -1);
+        Check.same("42: three hunts", watch.caughtWithin(3), 3 + 4 + 4);
+        Check.same("40: the paws take turns in the ring of shifts", watch.hoursUntilUnguarded(), -1);
+        Check.same("43: no hours", watch.bestFlapToChange(0), -1);
+        Check.sameDouble("51: eight cats", watch.averageTiredness(), 2.0 / 8.0);
+        Check.same("30: the last cat", watch.oathReason(7), GranaryWatch.SAME_PAW);
+        Check.same("30: the cat before it", watch.oathReason(6), GranaryWatch.CAN_SWEAR);
+        Check.same("50: consistent", watch.isConsistent(), true);
+        Check.same("54: all flaps", watch.shutFlap(5), 5);
+        watch.letPass(99);
+        Check.same("50: still consistent", watch.isConsistent(), true);
     }
 }
