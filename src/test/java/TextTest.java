@@ -20,6 +20,8 @@ public final class TextTest {
         scriptErrors();
         scriptTooMany();
         reportedError();
+        cutTexts();
+        fullBuffer();
         Check.end();
     }
 
@@ -349,6 +351,37 @@ public final class TextTest {
         Watch.load(watch, SMALL);
         Check.same("6: none after a setup", watch.errorCode(), GranaryWatch.NO_ERROR);
         Check.same("7: none after a setup", watch.errorOffset(), GranaryWatch.NONE);
+    }
+
+    /** Bytes that truncateInput cut off are no part of the text any more. */
+    private static void cutTexts() {
+        cut("wait 12;", 6, 6);
+        cut("wait 1   ;", 7, 7);
+        cut("dismissed", 7, 7);
+        cut("wait 1;;", 6, 6);
+    }
+
+    private static void cut(String text, int length, int offset) {
+        GranaryWatch watch = new GranaryWatch();
+        Watch.append(watch, text);
+        Check.same("3: cut " + text, watch.truncateInput(length), true);
+        Check.same("5: cut " + text, watch.runScript(), -1);
+        Check.same("6: cut " + text, watch.errorCode(), GranaryWatch.SYNTAX);
+        Check.same("7: cut " + text, watch.errorOffset(), offset);
+    }
+
+    private static void fullBuffer() {
+        GranaryWatch watch = new GranaryWatch();
+        Check.same("5: 600 bytes end with a statement", Watch.run(watch, " ".repeat(592) + "wait 24;"), 1);
+        Check.same("5: 600 bytes end with a blank", Watch.run(watch, "wait 24;" + " ".repeat(592)), 1);
+        Check.same("5: 600 bytes end in a number", Watch.run(watch, " ".repeat(593) + "wait 24"), -1);
+        Check.same("7: after 600 bytes", watch.errorOffset(), 600);
+        Check.same("5: 600 bytes end in a word", Watch.run(watch, " ".repeat(596) + "open"), -1);
+        Check.same("7: after 600 bytes again", watch.errorOffset(), 600);
+        Check.same("4: 600 bytes", Watch.load(watch, SMALL + "\n".repeat(600 - SMALL.length())), 1);
+        Check.same("4: 600 blanks", Watch.load(watch, " ".repeat(600)), -1);
+        Check.same("6: 600 blanks", watch.errorCode(), GranaryWatch.INCOMPLETE);
+        Check.same("7: 600 blanks", watch.errorOffset(), 600);
     }
 
     private static String manyCats(int count) {
