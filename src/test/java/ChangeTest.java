@@ -1,3 +1,4 @@
+import java.util.List;
 import java.util.NoSuchElementException;
 
 /** Promises 53 to 60 and 63 to 64: changes, undo, the saved state. */
@@ -140,32 +141,30 @@ public final class ChangeTest {
     }
 
     private static void undoing() {
-        GranaryWatch watch = new GranaryWatch();
-        Check.raises("60: nothing", NoSuchElementException.class, watch::undo);
-        String[] states = new String[8];
-        states[0] = Watch.state(watch);
-        watch.letPass(50);
-        states[1] = Watch.state(watch);
-        watch.openFlap(1);
-        states[2] = Watch.state(watch);
-        watch.shutFlap(0);
-        states[3] = Watch.state(watch);
-        watch.addMice(0, 7);
-        states[4] = Watch.state(watch);
-        watch.addGrain(0, 7);
-        states[5] = Watch.state(watch);
-        watch.dismiss();
-        states[6] = Watch.state(watch);
-        watch.setMilk(7);
-        states[7] = Watch.state(watch);
-        Watch.run(watch, "wait 9;milk 8;");
-        for (int i = 7; i >= 0; i--) {
-            Check.same("60: changes left", watch.undo(), i);
-            Check.same("60: back", Watch.state(watch), states[i]);
+        GranaryWatch fresh = new GranaryWatch();
+        Check.raises("60: nothing", NoSuchElementException.class, fresh::undo);
+        for (int left = 7; left >= 0; left--) {
+            GranaryWatch watch = new GranaryWatch();
+            changes(watch, 8);
+            for (int i = 7; i >= left; i--) {
+                Check.same("60: changes left", watch.undo(), i);
+            }
+            GranaryWatch due = new GranaryWatch();
+            changes(due, left);
+            Check.same("60: back", Watch.state(watch), Watch.state(due));
             Check.same("50: consistent", watch.isConsistent(), true);
+            if (left == 0) {
+                Check.raises("60: nothing left", NoSuchElementException.class, watch::undo);
+                Check.same("60: unchanged", Watch.state(watch), Watch.state(fresh));
+            }
         }
-        Check.raises("60: nothing left", NoSuchElementException.class, watch::undo);
-        Check.same("60: unchanged", Watch.state(watch), states[0]);
+    }
+
+    private static void changes(GranaryWatch watch, int count) {
+        List<Runnable> changes = List.of(() -> watch.letPass(50), () -> watch.openFlap(1), () -> watch.shutFlap(0),
+                () -> watch.addMice(0, 7), () -> watch.addGrain(0, 7), watch::dismiss, () -> watch.setMilk(7),
+                () -> Watch.run(watch, "wait 9;milk 8;"));
+        changes.subList(0, count).forEach(Runnable::run);
     }
 
     private static void undoingEight() {
@@ -245,11 +244,11 @@ public final class ChangeTest {
             watch.writeSacks();
             String output = Watch.output(watch);
             Check.same("64: the clock", watch.restoreState(), 36);
-            Check.same("64: the state", Watch.state(watch), saved);
             Check.same("64: the output stays", Watch.output(watch), output);
             Check.same("50: consistent", watch.isConsistent(), true);
             Check.raises("64: nothing to undo", NoSuchElementException.class, watch::undo);
         }
+        Check.same("64: the state", Watch.state(watch), saved);
         watch.setMilk(9);
         Check.same("64: changes after it", watch.undo(), 0);
         Watch.append(watch, "wait 1;");

@@ -1,5 +1,7 @@
 /** Counts the answers that are not due, and ends the program with exit code 1 if there was one. */
 final class Check {
+    /** What stands before the name of every check that fails. */
+    static String heading = "";
     private static int checks;
     private static int wrong;
 
@@ -32,6 +34,10 @@ final class Check {
         note(got.equals(due.getName()), what, got, due.getName());
     }
 
+    static int count() {
+        return checks;
+    }
+
     static void end() {
         System.out.println(checks + " checks, " + wrong + " wrong");
         if (wrong > 0 || checks == 0) {
@@ -43,7 +49,7 @@ final class Check {
         checks++;
         if (!right) {
             wrong++;
-            System.out.println(what + ": got " + got + ", due is " + due);
+            System.out.println(heading + what + ": got " + got + ", due is " + due);
         }
     }
 }

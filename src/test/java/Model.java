@@ -69,6 +69,10 @@ final class Model {
         return sacks.size();
     }
 
+    String sackName(int sack) {
+        return sacks.get(sack);
+    }
+
     // Texts
 
     int load(String text) {

@@ -1,15 +1,21 @@
 import java.util.Random;
 import java.util.function.Supplier;
 
-/** Runs of calls, made up from fixed seeds, are answered alike by the class and by the model. */
+/**
+ * Runs of calls, made up from fixed seeds, are answered alike by the class and by the model. What an object answers after
+ * its 512th call is free, so a run counts its calls and leaves enough of them to read the state at its end.
+ */
 public final class ModelTest {
-    private static final int RUNS = 200;
-    private static final int STEPS = 60;
+    private static final int RUNS = 3000;
+    private static final int MOST_CALLS = 512;
+    private static final int CALLS_OF_A_TEXT = 34;
+    private static final int CALLS_OF_THE_STATE = 270;
 
     private final Random random;
     private final GranaryWatch watch = new GranaryWatch();
     private final Model model = new Model();
     private final int seed;
+    private int calls;
 
     private ModelTest(int seed) {
         this.seed = seed;
@@ -27,12 +33,17 @@ public final class ModelTest {
         if (random.nextInt(8) > 0) {
             load(setup());
         }
-        for (int step = 0; step < STEPS; step++) {
+        int end = random.nextInt(MOST_CALLS - CALLS_OF_THE_STATE - CALLS_OF_A_TEXT);
+        while (calls < end) {
             act();
-            Check.same("state in run " + seed, Watch.state(watch), model.state());
             Check.same("50: run " + seed, watch.isConsistent(), true);
+            calls++;
         }
-        answers();
+        if (random.nextInt(3) > 0) {
+            Check.same("state in run " + seed, Watch.state(watch), model.state());
+        } else {
+            answers();
+        }
     }
 
     private void act() {
@@ -111,12 +122,13 @@ public final class ModelTest {
     }
 
     private void errors(String text) {
+        calls += CALLS_OF_A_TEXT;
         Check.same("6: " + text, watch.errorCode(), model.errorCode);
         Check.same("7: " + text, watch.errorOffset(), model.errorOffset);
     }
 
     private String statement() {
-        String sack = random.nextInt(30) == 0 ? "nosack" : Watch.sackName(watch, random.nextInt(model.sackCount()));
+        String sack = random.nextInt(30) == 0 ? "nosack" : model.sackName(random.nextInt(model.sackCount()));
         return switch (random.nextInt(7)) {
             case 0 -> "wait " + (1 + random.nextInt(random.nextInt(9) == 0 ? 100 : 9)) + ";";
             case 1 -> "open " + sack + ";";
@@ -179,6 +191,7 @@ public final class ModelTest {
     }
 
     private void same(String promise, Supplier<Integer> got, Supplier<Integer> due) {
+        calls++;
         Check.same(promise + ": run " + seed, outcome(got), outcome(due));
     }
 

@@ -16,16 +16,18 @@ public final class PredictionTest {
     }
 
     private static void likeThePast() {
-        GranaryWatch from = Watch.of(SETUP);
-        GranaryWatch watch = Watch.of(SETUP);
         for (int hours = 0; hours <= 200; hours++) {
+            GranaryWatch from = Watch.of(SETUP);
+            GranaryWatch watch = Watch.of(SETUP);
+            for (int left = hours; left > 0; left -= 99) {
+                watch.letPass(Math.min(left, 99));
+            }
             for (int sack = 0; sack < 4; sack++) {
                 Check.same("37: " + hours, from.miceAfter(sack, hours), watch.miceIn(sack));
                 Check.same("38: " + hours, from.grainAfter(sack, hours), watch.grainIn(sack));
             }
             Check.same("39: " + hours, from.swornAfter(hours), watch.swornCat());
             Check.same("42: " + hours, from.caughtWithin(hours), watch.totalCaught());
-            watch.letPass(1);
         }
         GranaryWatch later = Watch.of(SETUP);
         later.letPass(3);
@@ -102,25 +104,25 @@ public final class PredictionTest {
         Check.same("43: shut b", shut.bestFlapToChange(2), 0);
         GranaryWatch none = Watch.of("cat a 1 left;sack b 99 0 open;sack c 99 0 shut;shift a 24;");
         Check.same("43: no sack", none.bestFlapToChange(200), -1);
-        bestOfAll(new GranaryWatch());
-        bestOfAll(Watch.of(SETUP));
+        for (int hours = 0; hours <= 90; hours += 9) {
+            bestOfAll(new GranaryWatch(), hours);
+            bestOfAll(Watch.of(SETUP), hours);
+        }
     }
 
-    private static void bestOfAll(GranaryWatch watch) {
-        for (int hours = 0; hours <= 90; hours += 9) {
-            int most = grainLater(watch, hours);
-            int best = -1;
-            for (int sack = 0; sack < watch.sackCount(); sack++) {
-                turn(watch, sack);
-                int grain = grainLater(watch, hours);
-                watch.undo();
-                if (grain > most) {
-                    most = grain;
-                    best = sack;
-                }
+    private static void bestOfAll(GranaryWatch watch, int hours) {
+        int most = grainLater(watch, hours);
+        int best = -1;
+        for (int sack = 0; sack < watch.sackCount(); sack++) {
+            turn(watch, sack);
+            int grain = grainLater(watch, hours);
+            watch.undo();
+            if (grain > most) {
+                most = grain;
+                best = sack;
             }
-            Check.same("43: in " + hours + " hours", watch.bestFlapToChange(hours), best);
         }
+        Check.same("43: in " + hours + " hours", watch.bestFlapToChange(hours), best);
     }
 
     private static void turn(GranaryWatch watch, int sack) {

@@ -93,7 +93,7 @@ public final class TextTest {
         Check.same("4: the order is free", Watch.load(watch, "hour 0;sack b 1 1 open;cat a 1 left;milk 0;shift a 1;"), 1);
         Check.same("4: hour 0", watch.clock(), 0);
         Check.same("4: milk 0", watch.milk(), 0);
-        Check.same("4: most of all", Watch.load(watch, manyCats(8) + manySacks(6) + manyShifts(12)), 8);
+        Check.same("4: most of all", Watch.load(watch, Texts.cats(8) + Texts.sacks(6) + Texts.shifts(12)), 8);
         Check.same("4: six sacks", watch.sackCount(), 6);
         Check.same("4: twelve shifts", watch.shiftCount(), 12);
     }
@@ -130,101 +130,101 @@ public final class TextTest {
     }
 
     private static void setupSyntax() {
-        setupFails("x", 1, 0);
-        setupFails("cats a 1 left;", 1, 0);
-        setupFails("ca", 1, 0);
-        setupFails(";", 1, 0);
-        setupFails(" 5", 1, 1);
-        setupFails(SMALL + ";", 1, SMALL.length());
-        setupFails("wait 1;", 1, 0);
-        setupFails("Cat a 1 left;", 1, 0);
-        setupFails("cat", 1, 3);
-        setupFails("cat \n ", 1, 6);
-        setupFails("cat 1 1 left;", 1, 4);
-        setupFails("cat ;", 1, 4);
-        setupFails("cat abcdefg 1 left;", 1, 4);
-        setupFails("cat abcdefghi 1 left;", 1, 4);
-        setupFails("cat a", 1, 5);
-        setupFails("cat a left", 1, 6);
-        setupFails("cat a 00001 left;", 1, 6);
-        setupFails("cat a 99999 left;", 1, 6);
-        setupFails("cat a 1", 1, 7);
-        setupFails("cat a 1;", 1, 7);
-        setupFails("cat a 1 lef;", 1, 8);
-        setupFails("cat a 1 leftt;", 1, 8);
-        setupFails("cat a 1 open;", 1, 8);
-        setupFails("cat a 1 leftrightl;", 1, 8);
-        setupFails("cat a 1 left", 1, 12);
-        setupFails("cat a 1 left  ", 1, 14);
-        setupFails("cat a 1 left cat", 1, 13);
-        setupFails("cat a 1 left 1;", 1, 13);
-        setupFails("cat a\t1 left;", 1, 5);
-        setupFails("cat a!1 left;", 1, 5);
-        setupFails("cat a\u00e1 1 left;", 1, 5);
-        setupFails("cat aA 1 left;", 1, 5);
-        setupFails("cat a 1\r\nleft;", 1, 7);
-        setupFails("\u0000", 1, 0);
-        setupFails("`", 1, 0);
-        setupFails("{", 1, 0);
-        setupFails("/", 1, 0);
-        setupFails(":", 1, 0);
-        setupFails("sack", 1, 4);
-        setupFails("sack a 1 1", 1, 10);
-        setupFails("sack a 1 open;", 1, 9);
-        setupFails("sack a 1 1 left;", 1, 11);
-        setupFails("sack a 1 1 open 1", 1, 16);
-        setupFails("sack abcdefg 1 1 open;", 1, 5);
-        setupFails("cat a 1 left;shift", 1, 18);
-        setupFails("cat a 1 left;shift abcdefg 1;", 1, 19);
-        setupFails("cat a 1 left;shift a;", 1, 20);
-        setupFails("cat a 1 left;shift a 1 1;", 1, 23);
-        setupFails("milk;", 1, 4);
-        setupFails("milk 1", 1, 6);
-        setupFails("hour x;", 1, 5);
-        setupFails("hour 1 2;", 1, 7);
-        setupFails("milk 3;hour 6!", 1, 13);
+        Texts.setupFails("x", 1, 0);
+        Texts.setupFails("cats a 1 left;", 1, 0);
+        Texts.setupFails("ca", 1, 0);
+        Texts.setupFails(";", 1, 0);
+        Texts.setupFails(" 5", 1, 1);
+        Texts.setupFails(SMALL + ";", 1, SMALL.length());
+        Texts.setupFails("wait 1;", 1, 0);
+        Texts.setupFails("Cat a 1 left;", 1, 0);
+        Texts.setupFails("cat", 1, 3);
+        Texts.setupFails("cat \n ", 1, 6);
+        Texts.setupFails("cat 1 1 left;", 1, 4);
+        Texts.setupFails("cat ;", 1, 4);
+        Texts.setupFails("cat abcdefg 1 left;", 1, 4);
+        Texts.setupFails("cat abcdefghi 1 left;", 1, 4);
+        Texts.setupFails("cat a", 1, 5);
+        Texts.setupFails("cat a left", 1, 6);
+        Texts.setupFails("cat a 00001 left;", 1, 6);
+        Texts.setupFails("cat a 99999 left;", 1, 6);
+        Texts.setupFails("cat a 1", 1, 7);
+        Texts.setupFails("cat a 1;", 1, 7);
+        Texts.setupFails("cat a 1 lef;", 1, 8);
+        Texts.setupFails("cat a 1 leftt;", 1, 8);
+        Texts.setupFails("cat a 1 open;", 1, 8);
+        Texts.setupFails("cat a 1 leftrightl;", 1, 8);
+        Texts.setupFails("cat a 1 left", 1, 12);
+        Texts.setupFails("cat a 1 left  ", 1, 14);
+        Texts.setupFails("cat a 1 left cat", 1, 13);
+        Texts.setupFails("cat a 1 left 1;", 1, 13);
+        Texts.setupFails("cat a\t1 left;", 1, 5);
+        Texts.setupFails("cat a!1 left;", 1, 5);
+        Texts.setupFails("cat a\u00e1 1 left;", 1, 5);
+        Texts.setupFails("cat aA 1 left;", 1, 5);
+        Texts.setupFails("cat a 1\r\nleft;", 1, 7);
+        Texts.setupFails("\u0000", 1, 0);
+        Texts.setupFails("`", 1, 0);
+        Texts.setupFails("{", 1, 0);
+        Texts.setupFails("/", 1, 0);
+        Texts.setupFails(":", 1, 0);
+        Texts.setupFails("sack", 1, 4);
+        Texts.setupFails("sack a 1 1", 1, 10);
+        Texts.setupFails("sack a 1 open;", 1, 9);
+        Texts.setupFails("sack a 1 1 left;", 1, 11);
+        Texts.setupFails("sack a 1 1 open 1", 1, 16);
+        Texts.setupFails("sack abcdefg 1 1 open;", 1, 5);
+        Texts.setupFails("cat a 1 left;shift", 1, 18);
+        Texts.setupFails("cat a 1 left;shift abcdefg 1;", 1, 19);
+        Texts.setupFails("cat a 1 left;shift a;", 1, 20);
+        Texts.setupFails("cat a 1 left;shift a 1 1;", 1, 23);
+        Texts.setupFails("milk;", 1, 4);
+        Texts.setupFails("milk 1", 1, 6);
+        Texts.setupFails("hour x;", 1, 5);
+        Texts.setupFails("hour 1 2;", 1, 7);
+        Texts.setupFails("milk 3;hour 6!", 1, 13);
     }
 
     private static void setupRanges() {
-        setupFails("cat a 0 left;", 2, 6);
-        setupFails("cat a 10 left;", 2, 6);
-        setupFails("cat a 9999 left;", 2, 6);
-        setupFails("sack a 1000 1 open;", 2, 7);
-        setupFails("sack a 1 100 open;", 2, 9);
-        setupFails("cat a 1 left;shift a 0;", 2, 21);
-        setupFails("cat a 1 left;shift a 25;", 2, 21);
-        setupFails("milk 10;", 2, 5);
-        setupFails("hour 24;", 2, 5);
-        setupFails("milk 0010;", 2, 5);
+        Texts.setupFails("cat a 0 left;", 2, 6);
+        Texts.setupFails("cat a 10 left;", 2, 6);
+        Texts.setupFails("cat a 9999 left;", 2, 6);
+        Texts.setupFails("sack a 1000 1 open;", 2, 7);
+        Texts.setupFails("sack a 1 100 open;", 2, 9);
+        Texts.setupFails("cat a 1 left;shift a 0;", 2, 21);
+        Texts.setupFails("cat a 1 left;shift a 25;", 2, 21);
+        Texts.setupFails("milk 10;", 2, 5);
+        Texts.setupFails("hour 24;", 2, 5);
+        Texts.setupFails("milk 0010;", 2, 5);
     }
 
     private static void setupNames() {
-        setupFails("cat a 1 left;cat a 1 left;", 3, 17);
-        setupFails("sack a 1 1 open;sack a 1 1 open;", 3, 21);
-        setupFails("cat ab 1 left;cat a 1 left;cat abc 1 left;cat ab 1 left;", 3, 46);
-        setupFails("shift a 1;", 4, 6);
-        setupFails("sack a 1 1 open;shift a 1;", 4, 22);
-        setupFails("cat ab 1 left;shift a 1;", 4, 20);
-        setupFails("cat a 1 left;shift b 0;", 4, 19);
-        setupFails("shift tom 1;", 4, 6);
+        Texts.setupFails("cat a 1 left;cat a 1 left;", 3, 17);
+        Texts.setupFails("sack a 1 1 open;sack a 1 1 open;", 3, 21);
+        Texts.setupFails("cat ab 1 left;cat a 1 left;cat abc 1 left;cat ab 1 left;", 3, 46);
+        Texts.setupFails("shift a 1;", 4, 6);
+        Texts.setupFails("sack a 1 1 open;shift a 1;", 4, 22);
+        Texts.setupFails("cat ab 1 left;shift a 1;", 4, 20);
+        Texts.setupFails("cat a 1 left;shift b 0;", 4, 19);
+        Texts.setupFails("shift tom 1;", 4, 6);
     }
 
     private static void setupTooMany() {
-        setupFails(manyCats(9), 5, manyCats(8).length());
-        setupFails(manyCats(8) + "cat !", 5, manyCats(8).length());
-        setupFails(manySacks(7), 5, manySacks(6).length());
-        setupFails(manyCats(1) + manyShifts(13), 5, (manyCats(1) + manyShifts(12)).length());
-        setupFails(manyCats(8) + "cata", 1, manyCats(8).length());
+        Texts.setupFails(Texts.cats(9), 5, Texts.cats(8).length());
+        Texts.setupFails(Texts.cats(8) + "cat !", 5, Texts.cats(8).length());
+        Texts.setupFails(Texts.sacks(7), 5, Texts.sacks(6).length());
+        Texts.setupFails(Texts.cats(1) + Texts.shifts(13), 5, (Texts.cats(1) + Texts.shifts(12)).length());
+        Texts.setupFails(Texts.cats(8) + "cata", 1, Texts.cats(8).length());
     }
 
     private static void setupIncomplete() {
-        setupFails("", 6, 0);
-        setupFails(" \n ", 6, 3);
-        setupFails("milk 1;hour 1;", 6, 14);
-        setupFails("cat a 1 left;shift a 1;", 6, 23);
-        setupFails("cat a 1 left;sack a 1 1 open; ", 6, 30);
-        setupFails("sack a 1 1 open;", 6, 16);
-        setupFails("sack a 1 1 open", 1, 15);
+        Texts.setupFails("", 6, 0);
+        Texts.setupFails(" \n ", 6, 3);
+        Texts.setupFails("milk 1;hour 1;", 6, 14);
+        Texts.setupFails("cat a 1 left;shift a 1;", 6, 23);
+        Texts.setupFails("cat a 1 left;sack a 1 1 open; ", 6, 30);
+        Texts.setupFails("sack a 1 1 open;", 6, 16);
+        Texts.setupFails("sack a 1 1 open", 1, 15);
     }
 
     private static void scripts() {
@@ -280,50 +280,50 @@ public final class TextTest {
     }
 
     private static void scriptErrors() {
-        scriptFails("x", 1, 0);
-        scriptFails(";", 1, 0);
-        scriptFails("wait 1;;", 1, 7);
-        scriptFails("cat a 1 left;", 1, 0);
-        scriptFails("hour 1;", 1, 0);
-        scriptFails("wait", 1, 4);
-        scriptFails("wait 1", 1, 6);
-        scriptFails("wait 1 ", 1, 7);
-        scriptFails("wait;", 1, 4);
-        scriptFails("wait rye;", 1, 5);
-        scriptFails("wait 00001;", 1, 5);
-        scriptFails("wait 1 1;", 1, 7);
-        scriptFails("open", 1, 4);
-        scriptFails("open 1;", 1, 5);
-        scriptFails("open abcdefg;", 1, 5);
-        scriptFails("open oats", 1, 9);
-        scriptFails("open oats 1;", 1, 10);
-        scriptFails("shut ;", 1, 5);
-        scriptFails("mice rye;", 1, 8);
-        scriptFails("grain rye rye;", 1, 10);
-        scriptFails("dismiss tom;", 1, 8);
-        scriptFails("dismisst;", 1, 0);
-        scriptFails("dismissed;", 1, 0);
-        scriptFails("dismiss", 1, 7);
-        scriptFails("milk ;", 1, 5);
-        scriptFails("wait 1;wait\u00801;", 1, 11);
-        scriptFails("wait 0;", 2, 5);
-        scriptFails("wait 100;", 2, 5);
-        scriptFails("mice rye 0;", 2, 9);
-        scriptFails("mice rye 100;", 2, 9);
-        scriptFails("grain rye 0;", 2, 10);
-        scriptFails("grain rye 1000;", 2, 10);
-        scriptFails("milk 10;", 2, 5);
-        scriptFails("open tom;", 4, 5);
-        scriptFails("shut ry;", 4, 5);
-        scriptFails("mice ryes 0;", 4, 5);
-        scriptFails("wait 1;grain x 5;", 4, 13);
+        Texts.scriptFails("x", 1, 0);
+        Texts.scriptFails(";", 1, 0);
+        Texts.scriptFails("wait 1;;", 1, 7);
+        Texts.scriptFails("cat a 1 left;", 1, 0);
+        Texts.scriptFails("hour 1;", 1, 0);
+        Texts.scriptFails("wait", 1, 4);
+        Texts.scriptFails("wait 1", 1, 6);
+        Texts.scriptFails("wait 1 ", 1, 7);
+        Texts.scriptFails("wait;", 1, 4);
+        Texts.scriptFails("wait rye;", 1, 5);
+        Texts.scriptFails("wait 00001;", 1, 5);
+        Texts.scriptFails("wait 1 1;", 1, 7);
+        Texts.scriptFails("open", 1, 4);
+        Texts.scriptFails("open 1;", 1, 5);
+        Texts.scriptFails("open abcdefg;", 1, 5);
+        Texts.scriptFails("open oats", 1, 9);
+        Texts.scriptFails("open oats 1;", 1, 10);
+        Texts.scriptFails("shut ;", 1, 5);
+        Texts.scriptFails("mice rye;", 1, 8);
+        Texts.scriptFails("grain rye rye;", 1, 10);
+        Texts.scriptFails("dismiss tom;", 1, 8);
+        Texts.scriptFails("dismisst;", 1, 0);
+        Texts.scriptFails("dismissed;", 1, 0);
+        Texts.scriptFails("dismiss", 1, 7);
+        Texts.scriptFails("milk ;", 1, 5);
+        Texts.scriptFails("wait 1;wait\u00801;", 1, 11);
+        Texts.scriptFails("wait 0;", 2, 5);
+        Texts.scriptFails("wait 100;", 2, 5);
+        Texts.scriptFails("mice rye 0;", 2, 9);
+        Texts.scriptFails("mice rye 100;", 2, 9);
+        Texts.scriptFails("grain rye 0;", 2, 10);
+        Texts.scriptFails("grain rye 1000;", 2, 10);
+        Texts.scriptFails("milk 10;", 2, 5);
+        Texts.scriptFails("open tom;", 4, 5);
+        Texts.scriptFails("shut ry;", 4, 5);
+        Texts.scriptFails("mice ryes 0;", 4, 5);
+        Texts.scriptFails("wait 1;grain x 5;", 4, 13);
     }
 
     private static void scriptTooMany() {
-        scriptFails("milk 1;".repeat(31), 5, 210);
-        scriptFails("milk 1;".repeat(30) + " wait", 5, 211);
-        scriptFails("milk 1;".repeat(30) + "cat", 1, 210);
-        scriptFails("milk 1;".repeat(30) + ";", 1, 210);
+        Texts.scriptFails("milk 1;".repeat(31), 5, 210);
+        Texts.scriptFails("milk 1;".repeat(30) + " wait", 5, 211);
+        Texts.scriptFails("milk 1;".repeat(30) + "cat", 1, 210);
+        Texts.scriptFails("milk 1;".repeat(30) + ";", 1, 210);
     }
 
     private static void reportedError() {
@@ -382,45 +382,5 @@ public final class TextTest {
         Check.same("4: 600 blanks", Watch.load(watch, " ".repeat(600)), -1);
         Check.same("6: 600 blanks", watch.errorCode(), GranaryWatch.INCOMPLETE);
         Check.same("7: 600 blanks", watch.errorOffset(), 600);
-    }
-
-    private static String manyCats(int count) {
-        return many("cat ", " 1 left;", count);
-    }
-
-    private static String manySacks(int count) {
-        return many("sack ", " 1 1 open;", count);
-    }
-
-    private static String manyShifts(int count) {
-        return "shift a 1;".repeat(count);
-    }
-
-    private static String many(String before, String after, int count) {
-        StringBuilder text = new StringBuilder();
-        for (int i = 0; i < count; i++) {
-            text.append(before).append((char) ('a' + i)).append(after);
-        }
-        return text.toString();
-    }
-
-    private static void setupFails(String setup, int code, int offset) {
-        GranaryWatch watch = new GranaryWatch();
-        Check.same("4: " + setup, Watch.load(watch, setup), -1);
-        fails(watch, setup, code, offset);
-    }
-
-    private static void scriptFails(String text, int code, int offset) {
-        GranaryWatch watch = new GranaryWatch();
-        Check.same("5: " + text, Watch.run(watch, text), -1);
-        fails(watch, text, code, offset);
-        Check.raises("5: no change by " + text, java.util.NoSuchElementException.class, watch::undo);
-    }
-
-    private static void fails(GranaryWatch watch, String text, int code, int offset) {
-        Check.same("6: " + text, watch.errorCode(), code);
-        Check.same("7: " + text, watch.errorOffset(), offset);
-        Check.same("the buffer is empty after " + text, watch.truncateInput(1), false);
-        Check.same("nothing changes by " + text, Watch.state(watch), Watch.state(new GranaryWatch()));
     }
 }

@@ -1,6 +1,10 @@
 import java.nio.charset.StandardCharsets;
+import java.util.function.IntUnaryOperator;
 
-/** Fills granaries with texts, and reads longer answers from them. */
+/**
+ * Fills granaries with texts, and reads longer answers from them. What an object answers after its 512th call is free, so
+ * these make no call twice.
+ */
 final class Watch {
     private Watch() {
     }
@@ -14,8 +18,9 @@ final class Watch {
             if (length < 0) {
                 throw new IllegalArgumentException("the text is too long for a test");
             }
-            int surplus = Math.max(from + 20 - bytes.length, 0);
-            watch.truncateInput(length - surplus);
+            if (from + 20 > bytes.length) {
+                watch.truncateInput(length - (from + 20 - bytes.length));
+            }
         }
     }
 
@@ -38,11 +43,7 @@ final class Watch {
     }
 
     static String output(GranaryWatch watch) {
-        StringBuilder text = new StringBuilder();
-        for (int i = 0; watch.outputByte(i) != GranaryWatch.NONE; i++) {
-            text.append((char) watch.outputByte(i));
-        }
-        return text.toString();
+        return letters(watch::outputByte);
     }
 
     static String written(GranaryWatch watch) {
@@ -51,24 +52,26 @@ final class Watch {
     }
 
     static String catName(GranaryWatch watch, int cat) {
-        StringBuilder text = new StringBuilder();
-        for (int i = 0; watch.catNameByte(cat, i) != GranaryWatch.NONE; i++) {
-            text.append((char) watch.catNameByte(cat, i));
-        }
-        return text.toString();
+        return letters(i -> watch.catNameByte(cat, i));
     }
 
     static String sackName(GranaryWatch watch, int sack) {
+        return letters(i -> watch.sackNameByte(sack, i));
+    }
+
+    private static String letters(IntUnaryOperator byteAt) {
         StringBuilder text = new StringBuilder();
-        for (int i = 0; watch.sackNameByte(sack, i) != GranaryWatch.NONE; i++) {
-            text.append((char) watch.sackNameByte(sack, i));
+        int letter = byteAt.applyAsInt(0);
+        while (letter != GranaryWatch.NONE) {
+            text.append((char) letter);
+            letter = byteAt.applyAsInt(text.length());
         }
         return text.toString();
     }
 
     static String events(GranaryWatch watch) {
         StringBuilder text = new StringBuilder();
-        for (int i = 0; i < watch.eventCount(); i++) {
+        for (int i = 0, count = watch.eventCount(); i < count; i++) {
             text.append(watch.eventKind(i)).append(',').append(watch.eventCat(i)).append(',');
             text.append(watch.eventNumber(i)).append(' ');
         }
@@ -81,22 +84,29 @@ final class Watch {
         text.append("clock ").append(watch.clock()).append(" milk ").append(watch.milk());
         text.append(" sworn ").append(watch.swornCat()).append(" shift ").append(watch.currentShift());
         text.append(" left ").append(watch.hoursLeft());
-        for (int i = 0; i < watch.catCount(); i++) {
+        for (int i = 0, count = watch.catCount(); i < count; i++) {
             text.append(" cat ").append(catName(watch, i)).append(' ').append(watch.speedOf(i)).append(' ');
             text.append(watch.isLeftPawed(i)).append(' ').append(watch.tirednessOf(i)).append(' ');
             text.append(watch.caughtBy(i)).append(' ').append(watch.oathsOf(i));
         }
-        for (int i = 0; i < watch.sackCount(); i++) {
+        for (int i = 0, count = watch.sackCount(); i < count; i++) {
             text.append(" sack ").append(sackName(watch, i)).append(' ').append(watch.grainIn(i)).append(' ');
             text.append(watch.miceIn(i)).append(' ').append(watch.isOpen(i)).append(' ').append(watch.eatenFrom(i));
         }
-        for (int i = 0; i < watch.shiftCount(); i++) {
+        for (int i = 0, count = watch.shiftCount(); i < count; i++) {
             text.append(" shift ").append(watch.catOfShift(i)).append(' ').append(watch.hoursOfShift(i));
         }
         text.append(" totals ").append(watch.totalCaught()).append(' ').append(watch.totalEaten()).append(' ');
         text.append(watch.totalBorn()).append(' ').append(watch.totalStarved()).append(' ');
         text.append(watch.totalOaths()).append(' ').append(watch.totalRefusals());
         return text.append(" events ").append(events(watch)).toString();
+    }
+
+    /** The state with the length of the input, the reported error and the output. */
+    static String everything(GranaryWatch watch) {
+        int length = watch.appendInput(0, 0, 0, 0, 0);
+        watch.truncateInput(length - 20);
+        return state(watch) + "input " + length + " error " + watch.errorCode() + " " + watch.errorOffset() + " output " + output(watch);
     }
 
     private static int four(byte[] bytes, int from) {
