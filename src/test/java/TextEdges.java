@@ -22,6 +22,7 @@ final class TextEdges {
         firstError();
         smallestCode();
         errorOffsets();
+        earlyEnds();
         errorCodes();
         newObject();
         appendInput();
@@ -265,6 +266,26 @@ final class TextEdges {
         Check.same("the offset behind them", full.errorOffset(), 600);
         Check.same("600 bytes end with a wrong one", Watch.run(full, " ".repeat(599) + "!"), -1);
         Check.same("the offset of the last byte", full.errorOffset(), 599);
+    }
+
+    private static void earlyEnds() {
+        Sentence.of(TERMS, "a byte belongs to no token, or the text ends too early.");
+        String[] setup = {"cat a 1 left", "sack b 1 1 open", "cat a 1 left;shift a 1", "milk 1", "hour 1"};
+        for (String statement : setup) {
+            for (int end = statement.length(); end > 0; end = statement.lastIndexOf(' ', end - 1)) {
+                Texts.setupFails(statement.substring(0, end), GranaryWatch.SYNTAX, end);
+                Texts.setupFails(statement.substring(0, end) + " \n", GranaryWatch.SYNTAX, end + 2);
+                Texts.setupFails(statement.substring(0, end) + "!", GranaryWatch.SYNTAX, end);
+            }
+        }
+        String[] script = {"wait 1", "open oats", "shut rye", "mice rye 1", "grain rye 1", "dismiss", "milk 1"};
+        for (String statement : script) {
+            for (int end = statement.length(); end > 0; end = statement.lastIndexOf(' ', end - 1)) {
+                Texts.scriptFails(statement.substring(0, end), GranaryWatch.SYNTAX, end);
+                Texts.scriptFails(statement.substring(0, end) + " \n", GranaryWatch.SYNTAX, end + 2);
+                Texts.scriptFails(statement.substring(0, end) + "!", GranaryWatch.SYNTAX, end);
+            }
+        }
     }
 
     private static void errorCodes() {
