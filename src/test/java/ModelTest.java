@@ -33,7 +33,10 @@ public final class ModelTest {
         if (random.nextInt(8) > 0) {
             load(setup());
         }
-        int end = random.nextInt(MOST_CALLS - CALLS_OF_THE_STATE - CALLS_OF_A_TEXT);
+        if (seed % 16 == 0) {
+            comeNearTheLimits();
+        }
+        int end = calls + random.nextInt(MOST_CALLS - CALLS_OF_THE_STATE - CALLS_OF_A_TEXT - calls);
         while (calls < end) {
             act();
             Check.same("50: run " + seed, watch.isConsistent(), true);
@@ -43,6 +46,18 @@ public final class ModelTest {
             Check.same("state in run " + seed, Watch.state(watch), model.state());
         } else {
             answers();
+        }
+    }
+
+    /** Short runs would never fill a sack nor reach the last hour of the clock. */
+    private void comeNearTheLimits() {
+        for (int i = 0; i < 100; i++) {
+            same("53", () -> watch.letPass(99), () -> model.letPass(99));
+        }
+        int hours = 9999 - model.get("clock") - random.nextInt(24);
+        same("53", () -> watch.letPass(hours), () -> model.letPass(hours));
+        for (int i = 0; i < 10; i++) {
+            same("57", () -> watch.addGrain(0, 999), () -> model.addGrain(0, 999));
         }
     }
 
